@@ -14,10 +14,13 @@ public final class ClosedNetsTest {
         bound();
         best();
         bestOfAlike();
+        firstCalls();
+        fourAlike();
         balance();
         wrongNumbers();
         notClosed();
         greatNumbers();
+        greatNumbersTurned();
         DUE.end();
     }
 
@@ -97,6 +100,8 @@ public final class ClosedNetsTest {
         DUE.tells("meanOf(0, 2)", x, x.meanOf(0, 2), 1, 10, 7);
         DUE.tells("meanOf(1, 2)", x, x.meanOf(1, 2), 1, 4, 7);
         DUE.tells("round(0, 2)", x, x.round(0, 2), 1, 7, 3);
+        Due.lay(x, 0, 0, 1, 0, 0);
+        DUE.tells("chance of 0 and 1", x, x.chance(0), 1, 1, 3);
         Due.lay(x, 0, 1, 1, 0, 0);
         DUE.tells("chance of 1 and 1", x, x.chance(0), 2, 2, 7);
         Due.lay(x, 0, 0, 2, 0, 0);
@@ -161,6 +166,9 @@ public final class ClosedNetsTest {
         DUE.is("the first of alike ones", x.narrow(), 0);
         x.rate(1, 1);
         DUE.is("the one with fewer hands", x.narrow(), 1);
+        x.rate(0, 4);
+        x.rate(1, 6);
+        DUE.is("two hands at 4 are faster than one at 6", x.narrow(), 1);
         DUE.is("all ENDLESS", ring(3, 3).narrow(), WaitingNets.NONE);
         DUE.is("ENDLESS aside", ring(3, 1).narrow(), 1);
         DUE.is("LAST", ring(2, 0).narrow(), 0);
@@ -218,12 +226,61 @@ public final class ClosedNetsTest {
         DUE.is("the slower gains more", y.best(2), 3);
     }
 
+    /** A net that is all new to the object must be looked at by each call itself. */
+    private static void firstCalls() {
+        WaitingNets x = ring(0, 0);
+        DUE.is("visits", x.visits(1), 1);
+        x = ring(0, 0);
+        Due.lay(x, 0, 1, 1, 0, 0);
+        DUE.tells("chance", x, x.chance(0), 2, 2, 7);
+        x = ring(0, 0);
+        DUE.tells("through", x, x.through(0, 1), 1, 2, 3);
+        x = ring(0, 0);
+        DUE.tells("meanOf", x, x.meanOf(1, 1), 1, 1, 3);
+        x = ring(0, 0);
+        DUE.tells("round", x, x.round(0, 1), 1, 3, 2);
+        x = ring(3, 0);
+        DUE.is("narrow", x.narrow(), 1);
+        x = ring(0, 0);
+        DUE.tells("bound", x, x.bound(0, 1), 1, 2, 3);
+        x = ring(0, 0);
+        DUE.tells("best", x, x.best(1), 0, 2, 3);
+        x = ring(0, 0);
+        DUE.is("balance", x.balance(3), 4);
+    }
+
+    /** Four alike ones: each STATE of n things has the same chance. */
+    private static void fourAlike() {
+        WaitingNets x = new WaitingNets();
+        for (int c = 0; c < 4; c++) {
+            x.counter(c, c % 3);
+        }
+        for (int c = 0; c < 4; c++) {
+            x.way(c, (c + 1) % 4, 4);
+        }
+        int[] states = {4, 10, 20, 35};
+        for (int n = 1; n <= 4; n++) {
+            DUE.tells("through " + n, x, x.through(3, n), 1, new int[] {1, 2, 1, 4}[n - 1], new int[] {4, 5, 2, 7}[n - 1]);
+            for (int c = 0; c < 4; c++) {
+                DUE.tells("meanOf " + n, x, x.meanOf(c, n), 1, n == 4 ? 1 : n == 2 ? 1 : n, n == 4 ? 1 : n == 2 ? 2 : 4);
+            }
+            Due.lay(x, 0, 0, n - 1, 0, 1);
+            DUE.tells("chance " + n, x, x.chance(0), n, 1, states[n - 1]);
+        }
+    }
+
     private static void balance() {
         WaitingNets x = ring(0, 0);
         int[] due = {2, 3, 4, 5};
         for (int n = 1; n <= 4; n++) {
             DUE.is("balance " + n, x.balance(n), due[n - 1]);
         }
+        WaitingNets y = new WaitingNets();
+        y.counter(2, 0);
+        y.counter(3, 3);
+        y.way(2, 3, 4);
+        y.way(3, 2, 4);
+        DUE.is("the first are missing", y.balance(3), 4);
         x.counter(2, 3);
         x.counter(3, 2);
         x.hands(0, 2);
@@ -302,5 +359,23 @@ public final class ClosedNetsTest {
         x.hands(1, 2);
         x.hands(2, 2);
         DUE.is("the last is left", x.best(4), 3);
+    }
+
+    /** The same net told from behind: the fractions come so near that a later one is but little greater. */
+    private static void greatNumbersTurned() {
+        WaitingNets x = new WaitingNets();
+        for (int c = 0; c < 4; c++) {
+            x.counter(c, c == 3 ? 1 : 0);
+            x.rate(c, c == 3 ? 1 : 12);
+        }
+        for (int c = 3; c > 0; c--) {
+            x.way(c, c - 1, 1);
+            x.way(c, 3, 3);
+        }
+        x.way(0, 3, 4);
+        DUE.is("visits", x.visits(3), 64);
+        DUE.tells("best is the greatest, told of the first", x, x.best(4), 2, 5586589116L, 357541721125L);
+        x.hands(2, 2);
+        DUE.is("the next", x.best(4), 1);
     }
 }

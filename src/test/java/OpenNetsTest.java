@@ -67,6 +67,18 @@ public final class OpenNetsTest {
         for (int c : NO_COUNTERS) {
             DUE.is("flow of " + c, x.flow(c), WaitingNets.BAD);
         }
+        x.comes(0, 0);
+        // f0 = f1 / 4, f1 = 1 + 3 f0 / 4 + f1 / 4
+        DUE.tells("flow by WAYS alone", x, x.flow(0), 1, 4, 9);
+        x.comes(1, 0);
+        x.comes(2, 6);
+        x.way(2, 1, 2);
+        x.way(2, 2, 1);
+        // f2 = 6 + f2 / 4, f0 = f1 / 4, f1 = 3 f0 / 4 + f1 / 4 + f2 / 2
+        DUE.tells("flow from the last", x, x.flow(0), 1, 16, 9);
+        DUE.tells("flow from the last on", x, x.flow(1), 1, 64, 9);
+        x.comes(2, 0);
+        DUE.tells("none come", x, x.flow(2), 1, 0, 1);
         DUE.is("upper stays", x.upper(), 0);
     }
 

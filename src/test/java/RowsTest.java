@@ -48,7 +48,9 @@ public final class RowsTest {
             DUE.is("row " + r, x.row(r, -1), WaitingNets.BAD);
         }
         x.lay(0, 39, 7);
+        x.lay(0, 0, 7);
         DUE.is("row(0, 40) anew", x.row(0, 40), 40);
+        DUE.asks("anew the first is 0", x, x.lay(0, 0, 1), 1, 0);
         DUE.asks("anew all are 0", x, x.lay(0, 39, 1), 1, 0);
         x.row(0, 3);
         x.lay(0, 2, 9);
@@ -136,6 +138,8 @@ public final class RowsTest {
         DUE.finds("average of no ints", x, x.average(0), Due.NOUGHT);
         Due.lay(x, 0, 1, 2, 4);
         DUE.asks("average", x, x.average(0), 1, 2);
+        Due.lay(x, 0, 7);
+        DUE.asks("average of one", x, x.average(0), 1, 7);
         Due.lay(x, 0, -1, -2, -4);
         DUE.asks("average below 0 is cut", x, x.average(0), 1, -2);
         Due.lay(x, 0, Integer.MAX_VALUE, Integer.MAX_VALUE, Integer.MAX_VALUE);
