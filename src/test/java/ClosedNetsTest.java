@@ -14,6 +14,7 @@ public final class ClosedNetsTest {
         bound();
         best();
         bestOfAlike();
+        bestByLittle();
         firstCalls();
         fourAlike();
         balance();
@@ -224,6 +225,33 @@ public final class ClosedNetsTest {
         y.way(3, 2, 4);
         DUE.tells("alike with one thing, of others", y, y.best(1), 2, 12, 13);
         DUE.is("the slower gains more", y.best(2), 3);
+    }
+
+    /** A later THROUGH is greater, and one of the two comes out even while they are held together. */
+    private static void bestByLittle() {
+        WaitingNets x = new WaitingNets();
+        for (int c = 0; c < 3; c++) {
+            x.counter(c, 0);
+            x.rate(c, new int[] {2, 3, 6}[c]);
+        }
+        x.hands(2, 2);
+        x.way(0, 1, 4);
+        x.way(1, 0, 2);
+        x.way(1, 2, 2);
+        x.way(2, 1, 2);
+        x.way(2, 2, 2);
+        DUE.tells("best of three", x, x.best(2), 1, 6, 5);
+        WaitingNets y = new WaitingNets();
+        for (int c = 0; c < 4; c++) {
+            y.counter(c, c == 3 ? 1 : 0);
+            y.rate(c, new int[] {12, 12, 6, 4}[c]);
+        }
+        y.way(0, 2, 4);
+        y.way(1, 0, 2);
+        y.way(1, 3, 2);
+        y.way(2, 3, 4);
+        y.way(3, 1, 4);
+        DUE.tells("best of four", y, y.best(2), 1, 44, 27);
     }
 
     /** A net that is all new to the object must be looked at by each call itself. */
