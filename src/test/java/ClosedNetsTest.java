@@ -287,10 +287,12 @@ public final class ClosedNetsTest {
             x.way(c, (c + 1) % 4, 4);
         }
         int[] states = {4, 10, 20, 35};
+        int[][] through = {{1, 4}, {2, 5}, {1, 2}, {4, 7}};
+        int[][] mean = {{1, 4}, {1, 2}, {3, 4}, {1, 1}};
         for (int n = 1; n <= 4; n++) {
-            DUE.tells("through " + n, x, x.through(3, n), 1, new int[] {1, 2, 1, 4}[n - 1], new int[] {4, 5, 2, 7}[n - 1]);
+            DUE.tells("through " + n, x, x.through(3, n), 1, through[n - 1][0], through[n - 1][1]);
             for (int c = 0; c < 4; c++) {
-                DUE.tells("meanOf " + n, x, x.meanOf(c, n), 1, n == 4 ? 1 : n == 2 ? 1 : n, n == 4 ? 1 : n == 2 ? 2 : 4);
+                DUE.tells("meanOf " + n, x, x.meanOf(c, n), 1, mean[n - 1][0], mean[n - 1][1]);
             }
             Due.lay(x, 0, 0, n - 1, 0, 1);
             DUE.tells("chance " + n, x, x.chance(0), n, 1, states[n - 1]);
