@@ -61,6 +61,7 @@ public final class BoundsOfClosedNetsTest {
         narrowState();
         boundTheLesser();
         bestFirstOfAlike();
+        bestOfTheSlow();
         bestNone();
         bestRefused();
         balanceOfAll();
@@ -534,6 +535,28 @@ public final class BoundsOfClosedNetsTest {
         }
     }
 
+    /** "the greatest THROUGH (of COUNTER with the least number that is there)": 0, or 1 if 0 is missing. */
+    private static void bestOfTheSlow() {
+        int[] ones = {1, 1, 1, 1};
+        for (int slow = 0; slow <= 3; slow++) {
+            int[] rates = {2, 2, 2, 2};
+            rates[slow] = 1;
+            DUE.is("the slow one " + slow, ring(new int[] {0, 0, 0, 0}, rates, ones).laid().best(2), slow);
+        }
+        for (int first = 0; first <= 2; first++) {
+            int c = first;
+            // Three quarters of what leaves the first come back to it: its VISITS are 4, those of the next 1.
+            Bounds b = new Bounds(DUE, x -> {
+                x.counter(c, 1);
+                x.counter(c + 1, 0);
+                x.way(c, c, 3);
+                x.way(c, c + 1, 1);
+                x.way(c + 1, c, 4);
+            });
+            b.tells("THROUGH of " + first, first + 1, 4, 5, x -> x.best(1));
+        }
+    }
+
     private static void bestNone() {
         int[] ones = {1, 1, 1, 1};
         for (int n = 1; n <= 4; n++) {
@@ -569,7 +592,12 @@ public final class BoundsOfClosedNetsTest {
                 b.answers(n + " at " + (last + 1), many[last][n - 1], x -> x.balance(things));
             }
         }
-        RING.answers("the third is missing", 15, x -> x.balance(4));
+        for (int gone = 0; gone <= 3; gone++) {
+            int[] kinds = {0, 3, 1, 2};
+            kinds[gone] = -1;
+            Bounds b = ring(kinds, new int[] {6, 2, 3, 12}, ones);
+            b.answers(gone + " is missing", 15, x -> x.balance(4));
+        }
         ring(new int[] {0, 0, 0, 0}, ones, ones).answers("four alike", 35, x -> x.balance(4));
     }
 

@@ -29,7 +29,9 @@ public final class BoundsOfCountersTest {
         counterKinds();
         counterAtFirst();
         counterAnew();
+        anewAmongAll();
         dropped();
+        droppedAmongAll();
         rates();
         ratesOfEachKind();
         handsOneOrTwo();
@@ -139,6 +141,30 @@ public final class BoundsOfCountersTest {
         told(x, 0, 0, 1, 1, 0, 4);
     }
 
+    /** A quarter from each to each, nine come to each. */
+    private static final Bounds ALL = new Bounds(DUE, x -> {
+        for (int c = 0; c <= 3; c++) {
+            x.counter(c, 0);
+            x.comes(c, 9);
+        }
+        for (int from = 0; from <= 3; from++) {
+            for (int to = 0; to <= 3; to++) {
+                x.way(from, to, 1);
+            }
+        }
+    });
+
+    private static void anewAmongAll() {
+        for (int c = 0; c <= 3; c++) {
+            WaitingNets x = ALL.laid();
+            DUE.is("anew " + c, x.counter(c, 0), 1);
+            DUE.is("WAYS of the other three", x.count(3), 9);
+            for (int o = 0; o <= 3; o++) {
+                told(x, o, 0, 1, 1, o == c ? 0 : 9, o == c ? 4 : 1);
+            }
+        }
+    }
+
     // ---- 8: "A COUNTER is missing (WAYS to and from it, COMES are gone): 1. BAD; NOTHING."
 
     private static void dropped() {
@@ -162,6 +188,19 @@ public final class BoundsOfCountersTest {
         told(x, 0, 0, 1, 1, 0, 4);
         DUE.is("no WAY came back", x.count(3), 2);
         told(x, 2, 5, 3, 1, 9, 3);
+    }
+
+    private static void droppedAmongAll() {
+        for (int c = 0; c <= 3; c++) {
+            WaitingNets x = ALL.laid();
+            DUE.is("drop " + c, x.drop(c), 1);
+            DUE.is("WAYS of the other three", x.count(3), 9);
+            DUE.is("it comes", x.counter(c, 0), 0);
+            DUE.is("without WAYS", x.count(3), 9);
+            for (int o = 0; o <= 3; o++) {
+                told(x, o, 0, 1, 1, o == c ? 0 : 9, o == c ? 4 : 1);
+            }
+        }
     }
 
     // ---- 9: "RATE: what it was. BAD; NOTHING.", of "1, 2, 3, 4, 6 or 12"

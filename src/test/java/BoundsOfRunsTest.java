@@ -22,6 +22,7 @@ public final class BoundsOfRunsTest {
         handZeroAhead();
         longRuns();
         oneRowForBoth();
+        runsAgain();
         DUE.end();
     }
 
@@ -270,5 +271,17 @@ public final class BoundsOfRunsTest {
         run(0, 1, of(0, 1)).finds("0 is no time to be served", Due.UNLIKE, x -> x.seen(2, 0, 0));
         run(0, 1, of(1, LONGEST + 1)).finds("1001 neither", Due.UNLIKE, x -> x.seen(2, 0, 0));
         run(0, 1, of(1, LONGEST)).tells("1000 is", 2, 0, 1, x -> x.seen(2, 0, 0));
+    }
+
+    /** A RUN begins with hands that are free, whatever was asked before. */
+    private static void runsAgain() {
+        for (int hands = 1; hands <= 2; hands++) {
+            WaitingNets x = run(0, hands, of(0, 0, 0), 5, 5, 5).laid();
+            for (int turn = 0; turn < 3; turn++) {
+                DUE.asks("the first", x, x.waited(2, 0, 1, 0), 1, 0);
+                DUE.asks("the third", x, x.waited(2, 0, 1, 2), 1, hands == 1 ? 10 : 5);
+                DUE.tells("all", x, x.seen(2, 0, 1), 3, 5, hands == 1 ? 1 : 3);
+            }
+        }
     }
 }

@@ -34,6 +34,7 @@ public final class BoundsOfToldTest {
         digestOfAll();
         digestWrapsAround();
         digestOfRoom();
+        lastOf512Calls();
         DUE.end();
     }
 
@@ -398,5 +399,20 @@ public final class BoundsOfToldTest {
                 : mixed(-1, -1, -1, kind, 1, 1, 0, 4, 0, 0, 0, 0, -1, -1, -1, -1, -1, -1);
             DUE.is("KIND " + kind, x.digest(), due);
         }
+    }
+
+    /** "An object is used for at most 512 calls after it has been made": the last is answered as the first. */
+    private static void lastOf512Calls() {
+        WaitingNets x = new WaitingNets();
+        DUE.is("call 1", x.row(0, 1), 1);
+        for (int k = 2; k < 512; k += 2) {
+            DUE.asks("calls " + k + " and the next", x, x.lay(0, 0, k), 1, k - 2);
+        }
+        DUE.is("call 512", x.lay(0, 0, 0), 1);
+        WaitingNets y = new WaitingNets();
+        for (int k = 1; k < 512; k++) {
+            DUE.is("call " + k, y.tear(5), WaitingNets.FINDING);
+        }
+        DUE.is("call 512", y.findings(Due.NOTHING), 511);
     }
 }
